@@ -582,6 +582,7 @@ public final class DeepHole {
         int start;
         int length;
         int value;
+        boolean isStopped;
 
         void put(int number) {
             for (int shift = 24; shift >= 0; shift -= 8) {
@@ -595,6 +596,7 @@ public final class DeepHole {
         void begin(int n) {
             limit = n;
             ahead = 0;
+            isStopped = false;
             advance();
         }
 
@@ -603,6 +605,9 @@ public final class DeepHole {
         }
 
         void advance() {
+            if (isStopped) {
+                return;
+            }
             while (ahead < limit && byteAt(ahead) == ' ') {
                 ahead++;
             }
@@ -714,7 +719,10 @@ public final class DeepHole {
                     lookForLacks();
                     break;
                 }
-                take(Tokens.SEMICOLON);
+                if (tokens.kind != Tokens.SEMICOLON) {
+                    blame(FORM);
+                }
+                tokens.advance();
             }
             return problem;
         }
@@ -745,6 +753,7 @@ public final class DeepHole {
             if (problem == 0) {
                 problem = number;
                 faultAt = tokens.start;
+                tokens.isStopped = true;
             }
         }
 
@@ -840,23 +849,14 @@ public final class DeepHole {
             if (isTooMuch) {
                 blame(number);
             }
-            take(Tokens.WORD);
-        }
-
-        private void take(int kind) {
-            if (problem == 0 && tokens.kind != kind) {
-                blame(FORM);
-            }
-            if (problem == 0) {
-                tokens.advance();
-            }
+            tokens.advance();
         }
 
         private void takeWord(String word) {
             if (!tokens.isWord(word)) {
                 blame(FORM);
             }
-            take(Tokens.WORD);
+            tokens.advance();
         }
 
         private boolean takeIfWord(String word) {
@@ -874,7 +874,7 @@ public final class DeepHole {
             } else if (value < low || value > high) {
                 blame(BOUNDS);
             }
-            take(Tokens.WHOLE);
+            tokens.advance();
             return value;
         }
 
@@ -896,7 +896,7 @@ public final class DeepHole {
             } else {
                 blame(FORM);
             }
-            take(Tokens.WORD);
+            tokens.advance();
             return side;
         }
 
@@ -912,7 +912,7 @@ public final class DeepHole {
                 nameWay[names] = way;
                 names++;
             }
-            take(Tokens.WORD);
+            tokens.advance();
         }
 
         private int takeWayName() {
@@ -923,19 +923,15 @@ public final class DeepHole {
             } else if (way < 0) {
                 blame(NO_WAY);
             }
-            take(Tokens.WORD);
+            tokens.advance();
             return way;
         }
 
         private boolean isName() {
-            return tokens.kind == Tokens.WORD && !isLineWord()
-                && !tokens.isWord("draw") && !tokens.isWord("sharpen");
-        }
-
-        private boolean isLineWord() {
-            return tokens.isWord("rod") || tokens.isWord("lip") || tokens.isWord("costs")
-                || tokens.isWord("way") || tokens.isWord("hard") || tokens.isWord("from")
-                || tokens.isWord("seer");
+            return tokens.kind == Tokens.WORD && !tokens.isWord("rod") && !tokens.isWord("lip")
+                && !tokens.isWord("costs") && !tokens.isWord("way") && !tokens.isWord("hard")
+                && !tokens.isWord("from") && !tokens.isWord("seer") && !tokens.isWord("draw")
+                && !tokens.isWord("sharpen");
         }
 
         private int findName() {

@@ -165,6 +165,12 @@ public final class DrillTest {
         Check.due("OUT by y", up.drill(30), 2);
         Check.due("y", up.inch(1, 1), 14);
         Check.due("OUT", up.state(2), 2);
+        DeepHole just = Check.shop(front + 14 + back.replace("left", "down"));
+        Check.due("OUT by y, as much as the wall", just.drill(30), 2);
+        Check.due("y", just.inch(1, 1), -14);
+        DeepHole nearly = Check.shop(front + 15 + back.replace("left", "down"));
+        Check.due("not OUT by y", nearly.drill(2), 2);
+        Check.due("not OUT yet", nearly.state(2), 0);
     }
 
     /** The hard place at INCH 2 of 4 is at 1 then; plan and sides stay. */
@@ -203,6 +209,17 @@ public final class DrillTest {
         Check.due("worn 0", worn.inch(0, 5), 2);
         Check.due("worn 1", worn.inch(1, 5), 6);
         Check.due("worn 2", worn.inch(2, 5), 12);
+        // lip 9: 10 times 9 by 9, and 1: 11; WEAR by 10 is whole: 99 times (9 and 1 and 1) by 10
+        DeepHole wear = Check.shop("rod inches 3 wall 999 bush 0;lip 9 oil 50 room 0 bears 999;"
+            + "costs inch 0 lip 9 draw 7;way a push 99 hold 0 force 1;hard 0 by 8 up;hard 1 by 9 down;"
+            + "hard 2 by 9 left;from 0 feed 1 way a draw sharpen");
+        wear.drill(3);
+        Check.due("WEAR 0", wear.inch(0, 3), 11);
+        Check.due("tilt 0", wear.inch(0, 6), 89);
+        Check.due("tilt 1", wear.inch(1, 6), 89 - 108);
+        Check.due("WEAR 1", wear.inch(1, 3), 11 + 12);
+        Check.due("tilt 2", wear.inch(2, 5), -118);
+        Check.due("draw and sharpen at INCH 0", wear.state(1), 3 + 9 + 7);
     }
 
     private static void hardPlaces() {

@@ -162,8 +162,8 @@ public final class ModelTest {
                 say("sure", a);
                 return due(hole.sure(a), model.sure(a));
             case 34: case 35: case 36:
-                say("ring");
                 a = near(0, 2);
+                say("ring", a);
                 return due(hole.ring(a), model.ring(a));
             case 37: case 38:
                 a = near(0, 3);

@@ -102,6 +102,7 @@ public final class NeedleTest {
         x.felt(3, 13);
         Check.granted(x, "INCH 3 is harder", x.causes(), 1);
         Check.granted(x, "INCH 3", x.cause(0, 2), 3);
+        Check.granted(x, "INCH 3 is sure", x.sure(2), 3);
     }
 
     /** The FORCE by which it is BROKEN is felt, too; nothing behind it is. */
@@ -126,6 +127,7 @@ public final class NeedleTest {
         x.felt(0, 26);
         Check.granted(x, "INCH 0 breaks it at once", x.causes(), 2);
         Check.granted(x, "INCH 0", x.sure(2), 0);
+        Check.granted(x, "two that differ", x.sure(1), -3);
     }
 
     private static void notReached() {
@@ -146,5 +148,9 @@ public final class NeedleTest {
         Check.granted(x, "INCH 0 would be OUT at once, INCH 1 at INCH 1", x.causes(), 4);
         Check.granted(x, "none", x.cause(0, 2), -2);
         Check.granted(x, "INCH 2 gives another FORCE, but by tenths", x.cause(1, 2), 2);
+        DeepHole edge = Check.shop("rod inches 3 wall 16 bush 0;lip 99 oil 50 room 99 bears 999;"
+            + "costs inch 5 lip 0 draw 4;way a push 50 hold 0 force 1;from 0 feed 1 way a");
+        edge.felt(2, 3);
+        Check.granted(edge, "no scatter", edge.causes(), 4);
     }
 }

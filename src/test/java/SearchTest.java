@@ -9,6 +9,7 @@ public final class SearchTest {
         oddsStopped();
         cheapest();
         feedsKept();
+        newRods();
         met();
         notMet();
         Check.end("SearchTest");
@@ -85,7 +86,7 @@ public final class SearchTest {
         Check.refused(small, "cheapest of none", small.cheapest(2, 0), 6);
         // the plan's draw and sharpening at INCH 3 cost 12
         Check.granted(small, "cheapest of all", small.cheapest(4, 999), 28);
-        // costs 7 by 7, 3 or 4: all alike, so the least FEEDS
+        // an INCH costs 1 by every FEED: all are alike, so the least FEEDS
         DeepHole alike = Check.shop(STILL.replace("inch 12", "inch 0"));
         Check.granted(alike, "cheapest of like ones", alike.cheapest(3, 5), 3);
         Check.due("the least FEED", alike.feedAt(0), 1);
@@ -121,6 +122,42 @@ public final class SearchTest {
         Check.due("feedAt(1) stays", x.feedAt(1), 1);
         x.cheapest(1, 5);
         Check.due("feedAt(1) of one", x.feedAt(1), DeepHole.NONE);
+    }
+
+    /** A new rod begins without WEAR and CHIPS: a little of either would break the drill sooner. */
+    private static void newRods() {
+        String text = "rod inches 4 wall 100 bush 0;lip 99 oil 2 room 2 bears 13;"
+            + "costs inch 12 lip 0 draw 0;way a push 0 hold 0 force 10;from 0 feed 1 way a";
+        // FORCES 10, 11, 14: CHIPS 1, 2, 3 of which 2 have room, WEAR 0, 1, 2
+        DeepHole x = Check.shop(text);
+        Check.due("odds of two", x.odds(2, 999), 16);
+        Check.due("odds of three", x.odds(3, 999), 0);
+        Check.due("cheapest of two", x.cheapest(2, 0), 26);
+        Check.due("cheapest of three", x.cheapest(3, 0), DeepHole.NONE);
+        Check.due("met in the middle", x.met(2), 0);
+        Check.due("meet", x.meet(), 2);
+        DeepHole y = Check.shop(text.replace("bears 13", "bears 11"));
+        Check.due("odds of two", y.odds(2, 999), 16);
+        Check.due("cheapest of two", y.cheapest(2, 0), 26);
+        Check.due("met in the middle", y.met(2), 0);
+        DeepHole z = Check.shop(text.replace("bears 13", "bears 10"));
+        Check.due("odds of one", z.odds(1, 999), 4);
+        Check.due("odds of two", z.odds(2, 999), 0);
+        Check.due("cheapest of one", z.cheapest(1, 0), 13);
+        Check.due("not met", z.met(2), DeepHole.NONE);
+        DeepHole chips = Check.shop(text.replace("bears 13", "bears 11").replace("room 2", "room 1"));
+        Check.due("CHIPS crowd", chips.odds(2, 999), 0);
+        Check.due("CHIPS crowd", chips.cheapest(2, 0), DeepHole.NONE);
+        Check.due("CHIPS crowd", chips.meet(), DeepHole.NONE);
+        // 4 to the right and 6 to the left; 4 down and 6 up
+        DeepHole apart = Check.shop("rod inches 2 wall 100 bush 0;lip 99 oil 50 room 2 bears 999;"
+            + "costs inch 12 lip 0 draw 0;way a push 10 hold 0 force 1;hard 0 by 3 right;hard 1 by 5 left;"
+            + "from 0 feed 1 way a");
+        Check.due("apart to both sides", apart.met(1), 10);
+        DeepHole above = Check.shop("rod inches 2 wall 100 bush 0;lip 99 oil 50 room 2 bears 999;"
+            + "costs inch 12 lip 0 draw 0;way a push 10 hold 0 force 1;hard 0 by 3 down;hard 1 by 5 up;"
+            + "from 0 feed 1 way a");
+        Check.due("apart above and below", above.met(1), 10);
     }
 
     private static void met() {

@@ -115,14 +115,14 @@ public final class ShopTest {
         ok(WHOLE.replace("inches 4", "inches 004"));
         ok(WHOLE.replace("way d", "way abcdefgh"));
         // every WORD is a NAME but the nine
+        ok(WHOLE.replace("way d", "way az"));
         ok(WHOLE.replace("way d", "way push"));
         ok(WHOLE.replace("way d", "way inches"));
         ok(WHOLE.replace("way d", "way right"));
         ok(WHOLE + ";seer sees sees 1;seer by sees 2");
         ok(WHOLE + " draw");
         ok(WHOLE + " sharpen");
-        ok(LAST.length() > 0 ? Check.WAY + LAST + ";" + Check.COSTS + Check.LIP
-            + Check.ROD.substring(0, Check.ROD.length() - 1) : "");
+        ok(Check.WAY + LAST + ";" + Check.COSTS + Check.LIP + Check.ROD.substring(0, Check.ROD.length() - 1));
         ok(WHOLE + ";hard 29 by 9 down;hard 29 by 1 left;hard 0 by 5 right");
     }
 
@@ -175,6 +175,13 @@ public final class ShopTest {
         fault(1, "seer a @see 4");
         fault(1, "seer a sees 4 @draw");
         fault(1, WHOLE + "@,");
+        fault(1, WHOLE + "@" + (char) 0);
+        fault(1, "rod inches 4 @mall 10");
+        fault(1, "rod inches 4 @walk 10");
+        fault(1, "way @{ push 0");
+        fault(1, "way @` push 0");
+        fault(1, "rod inches @/ wall");
+        fault(1, "rod inches @: wall");
         fault(1, WHOLE + ";@");
     }
 

@@ -214,6 +214,8 @@ public final class StraightTest {
     private static void fewest() {
         DeepHole x = still();
         Check.granted(x, "straight", x.fewest(9, 0), 0);
+        Check.granted(x, "the most and the most", x.fewest(99, 999), 0);
+        Check.granted(x, "the least", x.fewest(1, 0), 0);
         Check.due("stroke of none", x.stroke(0), DeepHole.NONE);
         x.blow(2, 1, 8);
         Check.granted(x, "straight enough", x.fewest(8, 8), 0);
@@ -236,6 +238,13 @@ public final class StraightTest {
         Check.due("the first", x.stroke(0), 12);
         Check.due("the second", x.stroke(1), 33);
         Check.due("no third", x.stroke(2), DeepHole.NONE);
+        x.rod(false);
+        x.drill(5);
+        x.blow(3, 0, 9);
+        x.blow(1, 2, 9);
+        Check.granted(x, "two across", x.fewest(9, 0), 2);
+        Check.due("the first across", x.stroke(0), 10);
+        Check.due("the second across", x.stroke(1), 32);
         x.rod(false);
         x.drill(5);
         x.blow(2, 3, 9);
