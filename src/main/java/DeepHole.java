@@ -582,7 +582,6 @@ public final class DeepHole {
         int start;
         int length;
         int value;
-        boolean isStopped;
 
         void put(int number) {
             for (int shift = 24; shift >= 0; shift -= 8) {
@@ -596,7 +595,6 @@ public final class DeepHole {
         void begin(int n) {
             limit = n;
             ahead = 0;
-            isStopped = false;
             advance();
         }
 
@@ -605,9 +603,6 @@ public final class DeepHole {
         }
 
         void advance() {
-            if (isStopped) {
-                return;
-            }
             while (ahead < limit && byteAt(ahead) == ' ') {
                 ahead++;
             }
@@ -668,7 +663,7 @@ public final class DeepHole {
         }
     }
 
-    /** Reads a text from the left and stops at its first fault; every step behind a fault does nothing. */
+    /** Reads a text from the left; the LINE of the first fault is gone through to its end, but nothing counts. */
     private static final class Reader {
         static final int FORM = 1;
         static final int NO_WAY = 2;
@@ -753,7 +748,6 @@ public final class DeepHole {
             if (problem == 0) {
                 problem = number;
                 faultAt = tokens.start;
-                tokens.isStopped = true;
             }
         }
 
