@@ -20,10 +20,11 @@ public final class ModelTest {
     }
 
     public static void main(String[] args) {
-        int runs = args.length > 0 ? Integer.parseInt(args[0]) : 150;
+        int runs = args.length > 0 ? Integer.parseInt(args[0]) : 200;
         long seed = args.length > 1 ? Long.parseLong(args[1]) : 1;
         for (int run = 0; run < runs; run++) {
-            if (!new ModelTest(seed * 1000003 + run).run(120)) {
+            // with what feeds it, some 500 of the 512 calls that an object is good for
+            if (!new ModelTest(seed * 1000003 + run).run(90)) {
                 break;
             }
         }
@@ -109,7 +110,7 @@ public final class ModelTest {
                 say("state", a);
                 return due(hole.state(a), model.state(a));
             case 12: case 13:
-                a = near(1, 6);
+                a = random.nextInt(10) == 0 ? near(1, 9) : near(1, 6);
                 b = random.nextBoolean() ? near(0, 999) : near(0, 30);
                 say("odds", a, b);
                 return due(hole.odds(a, b), model.odds(a, b));
@@ -118,7 +119,7 @@ public final class ModelTest {
                 say("rows", a);
                 return due(hole.rows(a), model.rows(a));
             case 15: case 16:
-                a = near(1, 4);
+                a = random.nextInt(20) == 0 ? near(1, 7) : near(1, 4);
                 b = random.nextBoolean() ? near(0, 999) : near(0, 30);
                 say("cheapest", a, b);
                 return due(hole.cheapest(a, b), model.cheapest(a, b));

@@ -435,6 +435,12 @@ public final class StraightEdgesTest {
         Check.due("no second", x.stroke(1), DeepHole.NONE);
         Check.told(x, new Workshop().text());
         Check.due("none since shop()", x.stroke(0), DeepHole.NONE);
+        DeepHole shorter = still(20);
+        shorter.blow(10, 0, 99);
+        Check.granted(shorter, "a long rod", shorter.fewest(99, 0), 1);
+        shorter.rod(false);
+        shorter.drill(3);
+        Check.granted(shorter, "INCHES of a rod before this one don't count", shorter.fewest(99, 0), 0);
         DeepHole y = bent(3, 0);
         y.fewest(3, 0);
         Check.granted(y, "a number of 0 is told", y.fewest(3, 3), 0);

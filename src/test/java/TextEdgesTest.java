@@ -349,12 +349,15 @@ public final class TextEdgesTest {
         String plain = WHOLE.replace("bush 1", "bush 0");
         String hard = plain.replace(LAST, "from 0 feed 2 way d draw sharpen;from 2 feed 3 way d draw sharpen;"
             + "hard 0 by 9 left;hard 1 by 8 up;hard 3 by 9 down;seer o sees 1");
-        for (int i = 0; i < 4; i++) {
-            Check.told(x, hard);
-            Check.due("hard", x.drill(4), 4);
-            Check.leds(x, 0, 1, 3);
-            Check.told(x, plain);
-            Check.due("plain", x.drill(4), 4);
+        // in an order by which a SHOP follows each of the two earlier ones, of either sort
+        for (boolean isHard : new boolean[] {true, false, false, true, true, false, true, false, false}) {
+            Check.told(x, isHard ? hard : plain);
+            Check.due("drill", x.drill(4), 4);
+            if (isHard) {
+                Check.leds(x, 0, 1, 3);
+                Check.granted(x, "a seer", x.sees(0), 1);
+                continue;
+            }
             Check.leds(x);
             Check.due("no draw, no sharpening: its COST", x.state(1), 4 * 13);
             Check.due("x", x.inch(3, 0), 1 + 2 + 3 + 4);
@@ -363,6 +366,15 @@ public final class TextEdgesTest {
             Check.due("CHIPS", x.inch(3, 4), 4);
             Check.refused(x, "no seer", x.sees(0), 1);
         }
+        // a hard place told to the left was here, and is harder to its own side now
+        String edge = "rod inches 3 wall 20 bush 0;lip 99 oil 50 room 99 bears 999;costs inch 0 lip 0 draw 0;"
+            + "way a push 50 hold 0 force 10;from 0 feed 1 way a";
+        for (int i = 0; i < 3; i++) {
+            Check.told(x, edge + ";hard 0 by 1 left");
+        }
+        Check.told(x, edge);
+        Check.due("drill", x.drill(1), 1);
+        Check.due("to the right", x.inch(0, 0), 5);
     }
 
     /** "each told once": a NAME is another one if a letter is. */
@@ -377,6 +389,13 @@ public final class TextEdgesTest {
         fault(3, "way abcdefgh push 0 hold 0 force 1;seer @abcdefgh sees 1");
         fault(3, repeated("way w%s push 0 hold 0 force 1;", 4) + repeated("seer s%s sees 1;", 3) + "seer @wd sees 1");
         fault(3, repeated("way w%s push 0 hold 0 force 1;", 4) + repeated("seer s%s sees 1;", 3) + "seer @sc sees 1");
+        // the eighth NAME is as good as the first
+        String eight = repeated("seer s%s sees 1;", 4) + repeated("way w%s push 0 hold 0 force 1;", 4)
+            + Check.ROD + Check.LIP + Check.COSTS;
+        check(0, eight + "from 0 feed 1 way wa", 4);
+        check(0, eight + "from 0 feed 1 way wd", 4);
+        fault(2, eight + "from 0 feed 1 way @sd");
+        fault(2, eight + "from 0 feed 1 way @we");
         fault(3, Check.ROD + "@rod inches 4 wall 10 bush 0");
         fault(3, Check.LIP + "@lip 1 oil 0 room 0 bears 10");
         fault(3, Check.COSTS + "@costs inch 0 lip 0 draw 0");
