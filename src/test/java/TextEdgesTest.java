@@ -24,6 +24,9 @@ public final class TextEdgesTest {
         namesBeginAnew();
         linesBeginAnew();
         namesAlike();
+        namesThatMayBe();
+        fullTape();
+        eachObjectByItself();
         aheadOfUse();
         theFirstFault();
         theLeastNumber();
@@ -399,6 +402,66 @@ public final class TextEdgesTest {
         fault(3, Check.ROD + "@rod inches 4 wall 10 bush 0");
         fault(3, Check.LIP + "@lip 1 oil 0 room 0 bears 10");
         fault(3, Check.COSTS + "@costs inch 0 lip 0 draw 0");
+    }
+
+    /** "NAMES are WORDS but rod, lip, ..": the other WORDS of LINES are NAMES too, and so is what a letter parts. */
+    private static void namesThatMayBe() {
+        String[] words = {"inches", "wall", "bush", "oil", "room", "bears", "inch", "push", "hold", "force", "by",
+            "right", "up", "left", "down", "feed", "sees", "rods", "ro", "lips", "li", "cost", "ways", "wa", "hards",
+            "har", "froms", "fro", "seers", "see", "draws", "drawn", "dra", "sharpens", "sharpe"};
+        for (String word : words) {
+            ok(WHOLE.replace("way d", "way " + word));
+            ok(WHOLE.replace("way d", "way " + word) + " draw sharpen");
+            ok(WHOLE + ";seer " + word + " sees 1");
+            fault(2, WHOLE + ";from 1 feed 1 way @" + word);
+            fault(3, WHOLE.replace("way d", "way " + word) + ";seer @" + word + " sees 1");
+        }
+    }
+
+    /** A SHOP of 699 and of 700 bytes, its last WHOLE at the very end; the 701st byte has no room. */
+    private static void fullTape() {
+        String back = ";seer o sees 99";
+        for (int n : new int[] {699, 700}) {
+            String text = WHOLE + " ".repeat(n - WHOLE.length() - back.length()) + back;
+            Check.due("bytes", text.length(), n);
+            DeepHole x = new DeepHole();
+            Check.feedText(x, text);
+            Check.due("a full tape", x.state(5), 700);
+            Check.refused(x, "shop(701)", x.shop(701), 2);
+            Check.due("THE TAPE stays", x.state(5), 700);
+            Check.granted(x, "shop(" + n + ")", x.shop(n), 1);
+            Check.due("a seer", x.state(9), 1);
+            fault(4, WHOLE + " ".repeat(n - WHOLE.length() - back.length()) + ";seer o sees @00");
+        }
+    }
+
+    /** What one object is told, another doesn't know. */
+    private static void eachObjectByItself() {
+        DeepHole one = Check.shop(WHOLE + ";seer o sees 1");
+        one.drill(4);
+        one.blow(1, 0, 9);
+        one.felt(0, 9);
+        one.wall(0, 1, 1);
+        one.cheapest(1, 0);
+        one.shop(-1);
+        feedBlanks(one);
+        DeepHole two = new DeepHole();
+        for (int what = 0; what <= 10; what++) {
+            Check.due("state(" + what + ") of a new object", two.state(what), 0);
+        }
+        Check.due("trouble() of a new object", two.trouble(), 0);
+        Check.due("where() of a new object", two.where(), DeepHole.NONE);
+        Check.due("feedAt() of a new object", two.feedAt(0), DeepHole.NONE);
+        Check.due("clear() of a new object", two.clear(), 0);
+        Check.told(two, WHOLE.replace("inches 4", "inches 3"));
+        Check.due("INCHES of the one", one.state(6), 4);
+        Check.due("INCHES of the other", two.state(6), 3);
+        Check.due("done by the one", one.state(0), 4);
+        Check.due("done by the other", two.state(0), 0);
+        Check.due("trouble() of the one", one.trouble(), 2);
+        Check.due("trouble() of the other", two.trouble(), 0);
+        Check.due("bytes of the one", one.state(5), 20);
+        Check.due("bytes of the other", two.state(5), 0);
     }
 
     /** "ahead of its use". */
