@@ -26,6 +26,7 @@ public final class StraightEdgesTest {
         fewestNumbers();
         howFew();
         fewestFirst();
+        fewestOfThisRod();
         strokesKept();
         abouts();
         Check.end("StraightEdgesTest");
@@ -407,6 +408,23 @@ public final class StraightEdgesTest {
         last.blow(27, 3, 9);
         Check.granted(last, "the last INCH, the last side", last.fewest(9, 0), 1);
         Check.due("10 times 27 and 1", last.stroke(0), 271);
+    }
+
+    /** "at INCH i (1 .. how many less 2)", "by a told b": none at the last INCH, as a longer rod had one there by 40. */
+    private static void fewestOfThisRod() {
+        DeepHole x = still(10);
+        Check.granted(x, "a long rod", x.fewest(40, 0), 0);
+        x.rod(false);
+        Check.granted(x, "a shorter hole", x.drill(5), 5);
+        x.blow(3, 2, 99);
+        x.blow(3, 2, 1);
+        Check.granted(x, "100 at INCH 3", x.ring(1), 100);
+        Check.granted(x, "two leave 98", x.fewest(1, 98), 2);
+        Check.due("at INCH 3", x.stroke(0), 30);
+        Check.due("at INCH 3 again", x.stroke(1), 30);
+        Check.granted(x, "one leaves 99", x.fewest(1, 99), 1);
+        Check.refused(x, "none leave 97", x.fewest(1, 97), 6);
+        Check.refused(x, "none leave 80", x.fewest(1, 80), 6);
     }
 
     /** "of the latest fewest() since shop() that told a number .. NONE for none such". */
