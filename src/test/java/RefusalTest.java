@@ -338,16 +338,20 @@ public final class RefusalTest {
         none(RefusalTest::filled, "a wrong b comes ahead of 3", x -> x.blow(1, 0, 100), 2);
         none(RefusalTest::filled, "a wrong INCH comes ahead of 3", x -> x.blow(4, 0, 1), 1);
         none(RefusalTest::filled, "a wrong side comes ahead of 3", x -> x.blow(1, 4, 1), 1);
-        DeepHole x = rich();
-        while (x.state(5) < 700) {
-            x.feed(0x20202020, 0x20202020, 0x20202020, 0x20202020, 0x20202020);
-        }
-        DeepHole like = rich();
-        while (like.state(5) < 700) {
-            like.feed(0x20202020, 0x20202020, 0x20202020, 0x20202020, 0x20202020);
-        }
+        DeepHole x = richWithFullTape();
+        DeepHole like = richWithFullTape();
         Check.due("none comes", x.feed(0, 1, 2, 3, 4), DeepHole.NONE);
         Look.at(x, 700).dueLike("feed of a full tape", Look.at(like, 700));
+    }
+
+    /** Tries often enough, and no more often: the test ends whatever the tape takes. */
+    private static DeepHole richWithFullTape() {
+        DeepHole x = rich();
+        for (int i = 0; i < 35 && x.state(5) < 700; i++) {
+            x.feed(0x20202020, 0x20202020, 0x20202020, 0x20202020, 0x20202020);
+        }
+        Check.due("a full tape", x.state(5), 700);
+        return x;
     }
 
     private static void walls() {

@@ -22,8 +22,8 @@ public final class TroubleTest {
         Check.ledOf(x, 0);
         Check.due("trouble() behind all that is never refused", x.trouble(), 2);
         Check.due("trouble() again", x.trouble(), 2);
-        while (x.feed(0, 0, 0, 0, 0) >= 0) {
-            x.fault();
+        for (int i = 0; i < 36; i++) {
+            x.feed(0, 0, 0, 0, 0);
         }
         Check.due("trouble() behind a full tape", x.trouble(), 2);
         x.met(99);
